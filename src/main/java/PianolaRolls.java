@@ -80,7 +80,6 @@ public final class PianolaRolls {
     private final Judge judge = new Judge();
     private final Player player = new Player(judge);
     private final Likeness likeness = new Likeness();
-    private final Stair stairs = new Stair();
     private final School school = new School(judge);
     private boolean anyRead;
 
@@ -141,6 +140,7 @@ public final class PianolaRolls {
         if (number < 0 || number >= TEXTS) {
             return NONE;
         }
+        tape.cut();
         boolean fine = reader.read(scripts[number]);
         tape.size = 0;
         anyRead = true;
@@ -162,7 +162,7 @@ public final class PianolaRolls {
     }
 
     public boolean by(int text) {
-        if (text != NONE && !hasText(text)) {
+        if (text != NONE && textOf(text) == null) {
             return false;
         }
         now.ruling = text;
@@ -208,12 +208,14 @@ public final class PianolaRolls {
     }
 
     public int played(int text) {
-        if (!hasText(text)) {
+        Script script = textOf(text);
+        if (script == null) {
             return OTHER;
         }
-        Script script = scripts[text];
         for (int i = 0; i < script.clauses; i++) {
-            if (!carryOut(script, i)) {
+            int first = script.first(i);
+            boolean done = script.kind(i) == SUNDAY ? passSundays(first) == first : carryOut(script, i);
+            if (!done) {
                 return i;
             }
         }
@@ -418,8 +420,8 @@ public final class PianolaRolls {
         if (!canStand(rolls) || i < NONE || i >= Integer.bitCount(rolls)) {
             return OTHER;
         }
-        int keys = stairs.build(now.world, rolls);
-        return i == NONE ? keys : stairs.rollAt(i);
+        int keys = likeness.buildStair(now.world, rolls);
+        return i == NONE ? keys : likeness.stairRoll(i);
     }
 
     public long fills(int roll) {
@@ -494,7 +496,8 @@ public final class PianolaRolls {
     public int whose() {
         int bits = 0;
         for (int text = 0; text < now.texts; text++) {
-            if (hasText(text) && agrees(scripts[text])) {
+            Script script = textOf(text);
+            if (script != null && agrees(script)) {
                 bits |= 1 << text;
             }
         }
@@ -577,15 +580,17 @@ public final class PianolaRolls {
         }
     }
 
-    private boolean hasText(int text) {
-        return text >= 0 && text < now.texts && text < TEXTS;
+    /** The text of that number; null if none such is told. */
+    private Script textOf(int number) {
+        return number >= 0 && number < now.texts && number < TEXTS ? scripts[number] : null;
     }
 
     /** The text that rules, or null: then the laws are those that hold without one. */
     private Script ruling() {
-        return hasText(now.ruling) ? scripts[now.ruling] : null;
+        return textOf(now.ruling);
     }
 
+    /** A clause that is no law and no Sunday; whether it can be. */
     private boolean carryOut(Script script, int clause) {
         int first = script.first(clause);
         int second = script.second(clause);
@@ -600,8 +605,6 @@ public final class PianolaRolls {
                 return patch(second, first);
             case FORGET:
                 return forget(second, first);
-            case SUNDAY:
-                return passSundays(first);
             default:
                 return true;
         }
@@ -618,12 +621,15 @@ public final class PianolaRolls {
         return true;
     }
 
-    private boolean passSundays(int n) {
-        int can = Math.min(n, LAST_SUNDAY - now.world.moment.sunday);
-        if (can > 0) {
-            sunday(can);
+    /** Lets so many Sundays pass as can: how many these are. */
+    private int passSundays(int n) {
+        int passed = 0;
+        while (passed < n && now.world.moment.sunday < LAST_SUNDAY) {
+            now.keepStep();
+            player.passSunday(now.world, ruling());
+            passed++;
         }
-        return can == n;
+        return passed;
     }
 
     private boolean canStand(int rolls) {
@@ -751,9 +757,8 @@ public final class PianolaRolls {
             if (n < 1 || n > PLACES || rolls < 0 || rolls >= ROLLS) {
                 return NONE;
             }
+            // Its keys and wear are 0: nothing is told of a roll ahead of the roll.
             sizes[rolls] = n;
-            Arrays.fill(keys, rolls * PLACES, rolls * PLACES + PLACES, 0);
-            Arrays.fill(moment.wear, rolls * PLACES, rolls * PLACES + PLACES, 0);
             rolls++;
             return rolls - 1;
         }
@@ -762,7 +767,6 @@ public final class PianolaRolls {
             if (children < 0 || children >= CHILDREN) {
                 return NONE;
             }
-            Arrays.fill(moment.hearings, children * KEYS, children * KEYS + KEYS, 0);
             children++;
             return children - 1;
         }
@@ -772,7 +776,7 @@ public final class PianolaRolls {
         }
 
         boolean hasPlace(int roll, int at) {
-            return hasRoll(roll) && at >= 0 && at < sizes[roll] && at < PLACES;
+            return roll >= 0 && roll < rolls && roll < ROLLS && at >= 0 && at < sizes[roll] && at < PLACES;
         }
 
         boolean hasChild(int child) {
@@ -792,11 +796,12 @@ public final class PianolaRolls {
         }
 
         boolean isTorn(int roll, int at) {
-            return wearAt(roll, at) >= TORN;
+            return hasPlace(roll, at) && moment.wear[roll * PLACES + at] >= TORN;
         }
 
+        /** Is there a hole that isn't torn? */
         boolean sounds(int roll, int at) {
-            return keyAt(roll, at) != 0 && !isTorn(roll, at);
+            return hasPlace(roll, at) && keys[roll * PLACES + at] != 0 && moment.wear[roll * PLACES + at] < TORN;
         }
 
         void wearMore(int roll, int at, int more) {
@@ -813,22 +818,22 @@ public final class PianolaRolls {
 
         /** How often a child heard a key 1 .. 5; NONE for others. */
         int heardBy(int child, int key) {
-            return key == 0 ? NONE : timesHeard(child, key);
+            return hasChild(child) && key >= 1 && key < KEYS ? moment.hearings[child * KEYS + key] : NONE;
         }
 
         /** The same, but that the silent key is one that was never heard. */
         int timesHeard(int child, int key) {
-            return hasChild(child) && key >= 0 && key < KEYS ? moment.hearings[child * KEYS + key] : NONE;
+            return hasChild(child) && key >= 0 && key < KEYS ? moment.hearings[child * KEYS + key] : 0;
         }
 
         void hear(int child, int key) {
-            if (heardBy(child, key) != NONE) {
+            if (hasChild(child) && key >= 1 && key < KEYS) {
                 moment.hearings[child * KEYS + key] = Math.min(MOST_HEARD, moment.hearings[child * KEYS + key] + 1);
             }
         }
 
         void unhear(int child, int key) {
-            if (heardBy(child, key) != NONE) {
+            if (hasChild(child) && key >= 1 && key < KEYS) {
                 moment.hearings[child * KEYS + key] = 0;
             }
         }
@@ -855,9 +860,10 @@ public final class PianolaRolls {
         }
 
         int holes(int roll) {
+            int size = roll >= 0 && roll < rolls && roll < ROLLS ? sizes[roll] : 0;
             int many = 0;
-            for (int at = 0; at < size(roll); at++) {
-                if (keyAt(roll, at) != 0) {
+            for (int at = 0; at < size && at < PLACES; at++) {
+                if (keys[roll * PLACES + at] != 0) {
                     many++;
                 }
             }
@@ -1047,15 +1053,15 @@ public final class PianolaRolls {
         }
 
         int kind(int clause) {
-            return hasClause(clause) ? kinds[clause] : NONE;
+            return clause >= 0 && clause < clauses && clause < CLAUSES ? kinds[clause] : NONE;
         }
 
         int first(int clause) {
-            return hasClause(clause) ? firsts[clause] : 0;
+            return clause >= 0 && clause < clauses && clause < CLAUSES ? firsts[clause] : 0;
         }
 
         int second(int clause) {
-            return hasClause(clause) ? seconds[clause] : 0;
+            return clause >= 0 && clause < clauses && clause < CLAUSES ? seconds[clause] : 0;
         }
 
         boolean hasLaw(int law) {
@@ -1065,20 +1071,16 @@ public final class PianolaRolls {
         int lawAt(int law) {
             return law >= BLURS && law <= WEARS ? lawClause[law] : NONE;
         }
-
-        private boolean hasClause(int clause) {
-            return clause >= 0 && clause < clauses && clause < CLAUSES;
-        }
     }
 
-    /** The tape, and the token that its reader has come to. */
+    /** The tape, and the tokens that it is cut into; the last of these is its end. */
     static final class Tape {
         final int[] bytes = new int[BYTES];
+        final int[] kinds = new int[BYTES + 1];
+        final int[] starts = new int[BYTES + 1];
+        final int[] numbers = new int[BYTES + 1];
         int size;
-        int kind = TAPE_END;
-        int start;
-        int number;
-        private int next;
+        int tokens;
 
         void add(int four) {
             for (int shift = 24; shift >= 0; shift -= 8) {
@@ -1089,52 +1091,59 @@ public final class PianolaRolls {
             }
         }
 
-        void rewind() {
-            next = 0;
-            step();
+        void cut() {
+            tokens = 0;
+            int next = 0;
+            for (int at = 0; at < size && at < BYTES; at = Math.max(at + 1, next)) {
+                int sign = bytes[at];
+                if (isLetter(sign)) {
+                    next = wordEnd(at);
+                    addToken(wordNumber(at, next), at, 0);
+                } else if (isDigit(sign)) {
+                    next = numberEnd(at);
+                    addToken(NUMBER, at, numberOf(at, next));
+                } else if ((sign == '<' || sign == '>') && byteAt(at + 1) == '=') {
+                    next = at + 2;
+                    addToken(sign == '<' ? AT_MOST : AT_LEAST, at, 0);
+                } else if (sign != 32 && sign != 10) {
+                    addToken(isSign(sign) ? sign : NO_TOKEN, at, 0);
+                }
+            }
+            addToken(TAPE_END, size, 0);
         }
 
-        void step() {
-            while (next < size && isBlank(byteAt(next))) {
-                next++;
-            }
-            start = next;
-            int first = byteAt(start);
-            if (start >= size) {
-                kind = TAPE_END;
-            } else if (isLetter(first)) {
-                stepOverWord();
-            } else if (isDigit(first)) {
-                stepOverNumber();
-            } else {
-                stepOverSign(first);
+        private void addToken(int kind, int start, int number) {
+            if (tokens >= 0 && tokens <= BYTES) {
+                kinds[tokens] = kind;
+                starts[tokens] = start;
+                numbers[tokens] = number;
+                tokens++;
             }
         }
 
-        private void stepOverWord() {
-            while (next < size && isLetter(byteAt(next))) {
-                next++;
+        private int wordEnd(int from) {
+            int end = from;
+            while (end < size && isLetter(byteAt(end))) {
+                end++;
             }
-            kind = wordNumber(start, next);
+            return end;
         }
 
-        private void stepOverNumber() {
-            number = 0;
-            while (next < size && isDigit(byteAt(next))) {
+        private int numberEnd(int from) {
+            int end = from;
+            while (end < size && isDigit(byteAt(end))) {
+                end++;
+            }
+            return end;
+        }
+
+        private int numberOf(int from, int to) {
+            int number = 0;
+            for (int i = from; i < to; i++) {
                 // Beyond the largest number that can stand it doesn't matter by how much.
-                number = Math.min(LARGEST_NUMBER + 1, number * 10 + byteAt(next) - '0');
-                next++;
+                number = Math.min(LARGEST_NUMBER + 1, number * 10 + byteAt(i) - '0');
             }
-            kind = NUMBER;
-        }
-
-        private void stepOverSign(int sign) {
-            next++;
-            kind = isSign(sign) ? sign : NO_TOKEN;
-            if ((sign == '<' || sign == '>') && byteAt(next) == '=') {
-                next++;
-                kind = sign == '<' ? AT_MOST : AT_LEAST;
-            }
+            return number;
         }
 
         private int wordNumber(int from, int to) {
@@ -1160,10 +1169,6 @@ public final class PianolaRolls {
 
         private int byteAt(int i) {
             return i >= 0 && i < size && i < BYTES ? bytes[i] : 0;
-        }
-
-        private static boolean isBlank(int sign) {
-            return sign == 32 || sign == 10;
         }
 
         private static boolean isLetter(int sign) {
@@ -1195,12 +1200,14 @@ public final class PianolaRolls {
         }
     }
 
-    /** Reads the tape into a script. Each part answers whether it could stand; if not, the fault is set. */
+    /** Reads a tape's tokens into a script. Each part answers whether it can stand; if not, the fault is set. */
     static final class Reader {
         private final Tape tape;
         private Script script = new Script();
-        private int law;
+        private int token;
+        private int kind;
         private int number;
+        private int law;
         int fault;
         int faultAt = NONE;
 
@@ -1213,95 +1220,99 @@ public final class PianolaRolls {
             script.clear();
             fault = 0;
             faultAt = NONE;
-            tape.rewind();
+            comeTo(0);
             // The clause beyond the last one is tried, too: that it can't stand is its fault.
-            for (int i = 0; i <= CLAUSES && tape.kind != TAPE_END; i++) {
-                if (!readClause()) {
+            for (int i = 0; i <= CLAUSES && kind != TAPE_END; i++) {
+                if (!readClause() || !expect(';')) {
                     return false;
                 }
             }
             return true;
         }
 
+        private void comeTo(int next) {
+            token = next;
+            boolean isThere = next >= 0 && next < tape.tokens && next <= BYTES;
+            kind = isThere ? tape.kinds[next] : TAPE_END;
+            number = isThere ? tape.numbers[next] : 0;
+        }
+
         private boolean refuse(int what) {
             fault = what;
-            faultAt = tape.start;
+            faultAt = token >= 0 && token < tape.tokens && token <= BYTES ? tape.starts[token] : tape.size;
             return false;
         }
 
-        private boolean expect(int kind) {
-            if (tape.kind != kind) {
+        private boolean expect(int what) {
+            if (kind != what) {
                 return refuse(1);
             }
-            tape.step();
+            comeTo(token + 1);
             return true;
         }
 
         private boolean readClause() {
-            int kind = tape.kind;
-            if (kind < BLURS || kind > SUNDAY) {
-                return refuse(1);
+            int begins = kind;
+            if (!canBegin(begins)) {
+                return false;
             }
-            if (script.hasLaw(kind)) {
-                return refuse(4);
-            }
-            if (script.clauses >= CLAUSES) {
-                return refuse(6);
-            }
-            tape.step();
-            return readBody(kind) && expect(';');
-        }
-
-        private boolean readBody(int kind) {
-            switch (kind) {
+            comeTo(token + 1);
+            switch (begins) {
                 case CHILD:
                     script.addClause(CHILD, 0, 0);
                     return true;
                 case ROLL:
                     return readKeys();
                 case PLAY:
-                    return readNumber(0, ROLLS - 1) && readSecond(PLAY, TO, CHILDREN - 1);
+                    return readPair(PLAY, 0, ROLLS - 1, TO, CHILDREN - 1);
                 case PATCH:
-                    return readNumber(0, PLACES - 1) && readSecond(PATCH, OF, ROLLS - 1);
+                    return readPair(PATCH, 0, PLACES - 1, OF, ROLLS - 1);
                 case FORGET:
-                    return readNumber(1, KEYS - 1) && readSecond(FORGET, BY, CHILDREN - 1);
+                    return readPair(FORGET, 1, KEYS - 1, BY, CHILDREN - 1);
                 case SUNDAY:
                     return readSundays();
                 default:
-                    return readLaw(kind);
+                    return readLaw(begins);
             }
+        }
+
+        private boolean canBegin(int begins) {
+            if (begins < BLURS || begins > SUNDAY) {
+                return refuse(1);
+            }
+            if (script.hasLaw(begins)) {
+                return refuse(4);
+            }
+            return script.clauses < CLAUSES || refuse(6);
         }
 
         private boolean isNumber(int low, int high) {
-            if (tape.kind != NUMBER) {
+            if (kind != NUMBER) {
                 return refuse(1);
             }
-            return tape.number >= low && tape.number <= high || refuse(2);
+            return number >= low && number <= high || refuse(2);
         }
 
-        private boolean readNumber(int low, int high) {
+        private boolean readPair(int begins, int low, int high, int word, int secondHigh) {
             if (!isNumber(low, high)) {
                 return false;
             }
-            number = tape.number;
-            tape.step();
-            return true;
-        }
-
-        private boolean readSecond(int kind, int word, int high) {
             int first = number;
-            if (!expect(word) || !readNumber(0, high)) {
+            comeTo(token + 1);
+            if (!expect(word) || !isNumber(0, secondHigh)) {
                 return false;
             }
-            script.addClause(kind, first, number);
+            script.addClause(begins, first, number);
+            comeTo(token + 1);
             return true;
         }
 
         private boolean readSundays() {
-            if (!readNumber(1, SUNDAYS_AT_ONCE)) {
+            if (!isNumber(1, SUNDAYS_AT_ONCE)) {
                 return false;
             }
             script.addClause(SUNDAY, number, 0);
+            comeTo(token + 1);
             return true;
         }
 
@@ -1315,24 +1326,24 @@ public final class PianolaRolls {
                 if (i == PLACES) {
                     return refuse(7);
                 }
-                script.add(tape.number);
-                tape.step();
-                more = tape.kind == ',';
+                script.add(number);
+                comeTo(token + 1);
+                more = kind == ',';
                 if (more) {
-                    tape.step();
+                    comeTo(token + 1);
                 }
             }
             script.addClause(ROLL, from, script.size - from);
             return true;
         }
 
-        private boolean readLaw(int kind) {
-            law = kind;
+        private boolean readLaw(int begins) {
+            law = begins;
             int from = script.size;
             if (!readSum(0)) {
                 return false;
             }
-            script.addClause(kind, from, script.size);
+            script.addClause(begins, from, script.size);
             return true;
         }
 
@@ -1340,9 +1351,9 @@ public final class PianolaRolls {
             if (!readProduct(open)) {
                 return false;
             }
-            for (int i = 0; i < BYTES && (tape.kind == '+' || tape.kind == '-'); i++) {
-                int sign = tape.kind;
-                tape.step();
+            for (int i = 0; i < BYTES && (kind == '+' || kind == '-'); i++) {
+                int sign = kind;
+                comeTo(token + 1);
                 if (!readProduct(open)) {
                     return false;
                 }
@@ -1355,9 +1366,9 @@ public final class PianolaRolls {
             if (!readOne(open)) {
                 return false;
             }
-            for (int i = 0; i < BYTES && (tape.kind == '*' || tape.kind == '/'); i++) {
-                int sign = tape.kind;
-                tape.step();
+            for (int i = 0; i < BYTES && (kind == '*' || kind == '/'); i++) {
+                int sign = kind;
+                comeTo(token + 1);
                 if (!readOne(open)) {
                     return false;
                 }
@@ -1367,17 +1378,13 @@ public final class PianolaRolls {
         }
 
         private boolean readOne(int open) {
-            int kind = tape.kind;
-            if (kind >= ROLL && kind <= WEAR) {
-                return readName(kind);
+            int begins = kind;
+            if (begins >= ROLL && begins <= WEAR) {
+                return readName(begins);
             }
-            switch (kind) {
+            switch (begins) {
                 case NUMBER:
-                    if (!readNumber(0, LARGEST_NUMBER)) {
-                        return false;
-                    }
-                    script.add(NUMBER + number * OPERAND);
-                    return true;
+                    return readNumber();
                 case '(':
                     return enter(open) && readSum(open + 1) && expect(')');
                 case IF:
@@ -1388,18 +1395,27 @@ public final class PianolaRolls {
                     if (!enter(open) || !readOne(open + 1)) {
                         return false;
                     }
-                    script.add(kind == '-' ? NEGATE : kind);
+                    script.add(begins == '-' ? NEGATE : begins);
                     return true;
                 default:
                     return refuse(1);
             }
         }
 
+        private boolean readNumber() {
+            if (number > LARGEST_NUMBER) {
+                return refuse(2);
+            }
+            script.add(NUMBER + number * OPERAND);
+            comeTo(token + 1);
+            return true;
+        }
+
         private boolean enter(int open) {
             if (open >= NESTING) {
                 return refuse(3);
             }
-            tape.step();
+            comeTo(token + 1);
             return true;
         }
 
@@ -1410,7 +1426,7 @@ public final class PianolaRolls {
                 return refuse(5);
             }
             script.add(name);
-            tape.step();
+            comeTo(token + 1);
             return true;
         }
 
@@ -1435,8 +1451,8 @@ public final class PianolaRolls {
             if (!readBoth(open)) {
                 return false;
             }
-            for (int i = 0; i < BYTES && tape.kind == OR; i++) {
-                tape.step();
+            for (int i = 0; i < BYTES && kind == OR; i++) {
+                comeTo(token + 1);
                 if (!readBoth(open)) {
                     return false;
                 }
@@ -1449,8 +1465,8 @@ public final class PianolaRolls {
             if (!readAsk(open)) {
                 return false;
             }
-            for (int i = 0; i < BYTES && tape.kind == AND; i++) {
-                tape.step();
+            for (int i = 0; i < BYTES && kind == AND; i++) {
+                comeTo(token + 1);
                 if (!readAsk(open)) {
                     return false;
                 }
@@ -1460,7 +1476,7 @@ public final class PianolaRolls {
         }
 
         private boolean readAsk(int open) {
-            if (tape.kind == NOT) {
+            if (kind == NOT) {
                 if (!enter(open) || !readAsk(open + 1)) {
                     return false;
                 }
@@ -1470,11 +1486,11 @@ public final class PianolaRolls {
             if (!readSum(open)) {
                 return false;
             }
-            int sign = tape.kind;
+            int sign = kind;
             if (!compares(sign)) {
                 return refuse(1);
             }
-            tape.step();
+            comeTo(token + 1);
             if (!readSum(open)) {
                 return false;
             }
@@ -1545,9 +1561,10 @@ public final class PianolaRolls {
         }
 
         private int evaluate(Script script, int law, World world) {
-            int end = script.second(script.lawAt(law));
+            int clause = script.lawAt(law);
+            int end = script.second(clause);
             top = 0;
-            for (int i = script.first(script.lawAt(law)); i < end; i++) {
+            for (int i = script.first(clause); i < end; i++) {
                 int kind = script.stepAt(i) % OPERAND;
                 int operand = script.stepAt(i) / OPERAND;
                 if (kind == NUMBER) {
@@ -1557,8 +1574,20 @@ public final class PianolaRolls {
                 } else if (kind == ELSE || kind == THEN && pop() == 0) {
                     // It only ever goes on further down.
                     i = Math.max(i, operand - 1);
+                } else if (kind == HOLES) {
+                    push(world.holes(pop()));
+                } else if (kind == DIGITS) {
+                    push(digitsTogether(pop()));
+                } else if (kind == NEGATE) {
+                    push(-pop());
+                } else if (kind == NOT) {
+                    push(pop() == 0 ? 1 : 0);
+                } else if (kind == '+' || kind == '-' || kind == '*' || kind == '/') {
+                    int right = pop();
+                    push(reckon(kind, pop(), right));
                 } else if (kind != THEN) {
-                    push(limited(result(kind, world)));
+                    int right = pop();
+                    push(holds(kind, pop(), right) ? 1 : 0);
                 }
             }
             return pop();
@@ -1579,32 +1608,17 @@ public final class PianolaRolls {
             return stack[top];
         }
 
-        private static int limited(long value) {
-            return (int) Math.max(-LARGEST, Math.min(LARGEST, value));
-        }
-
-        private long result(int kind, World world) {
-            int last = pop();
-            switch (kind) {
-                case NEGATE:
-                    return -last;
-                case DIGITS:
-                    return digitsTogether(last);
-                case HOLES:
-                    return world.holes(last);
-                case NOT:
-                    return last == 0 ? 1 : 0;
-                case '+':
-                    return pop() + last;
-                case '-':
-                    return pop() - last;
-                case '*':
-                    return (long) pop() * last;
-                case '/':
-                    return last == 0 ? 0 * pop() : pop() / last;
-                default:
-                    return holds(kind, pop(), last) ? 1 : 0;
+        /** No other step can go beyond the largest, as these keep their results within. */
+        private static int reckon(int kind, int a, int b) {
+            long result = (long) a + b;
+            if (kind == '-') {
+                result = (long) a - b;
+            } else if (kind == '*') {
+                result = (long) a * b;
+            } else if (kind == '/') {
+                result = b == 0 ? 0 : a / b;
             }
+            return (int) Math.max(-LARGEST, Math.min(LARGEST, result));
         }
 
         private static int digitsTogether(int value) {
@@ -1653,20 +1667,16 @@ public final class PianolaRolls {
             int many = 0;
             for (int at = 0; at < world.size(roll); at++) {
                 if (world.sounds(roll, at)) {
-                    many += playPlace(world, law, roll, at, child);
+                    int blurs = judge.blurs(law, world, roll, at, child);
+                    if (world.moment.draw(10) >= blurs) {
+                        world.hear(child, world.keyAt(roll, at));
+                        many++;
+                    }
+                    world.wearMore(roll, at, judge.wears(law, world, roll, at, world.wearAt(roll, at)));
                 }
             }
             world.moment.write(roll, child, many);
             return many;
-        }
-
-        private int playPlace(World world, Script law, int roll, int at, int child) {
-            boolean isHeard = world.moment.draw(10) >= judge.blurs(law, world, roll, at, child);
-            if (isHeard) {
-                world.hear(child, world.keyAt(roll, at));
-            }
-            world.wearMore(roll, at, judge.wears(law, world, roll, at, world.wearAt(roll, at)));
-            return isHeard ? 1 : 0;
         }
 
         int passSunday(World world, Script law) {
@@ -1736,6 +1746,10 @@ public final class PianolaRolls {
         private final int[] two = new int[PLACES];
         private final int[] grid = new int[SIDE * SIDE];
         private final int[] shared = new int[PLACES];
+        private final int[] row = new int[ROLLS * PLACES];
+        private final int[] order = new int[ROLLS];
+        private final int[] stairOrder = new int[ROLLS];
+        private int stairSize;
         int rowFirst;
         int rowSize;
 
@@ -1898,7 +1912,11 @@ public final class PianolaRolls {
 
         private boolean hasPhrase(Whole all, int size) {
             for (int at = 0; at + all.phraseSize <= size; at++) {
-                if (unlikeAt(all, at) == 0) {
+                int like = 0;
+                while (like < all.phraseSize && like < PHRASE && one[at + like] == all.phrase[like]) {
+                    like++;
+                }
+                if (like == all.phraseSize) {
                     return true;
                 }
             }
@@ -1983,31 +2001,23 @@ public final class PianolaRolls {
             }
             return longest;
         }
-    }
 
-    /** Tries each order in which rolls can be laid into one row. */
-    static final class Stair {
-        private final int[] row = new int[ROLLS * PLACES];
-        private final int[] order = new int[ROLLS];
-        private final int[] bestOrder = new int[ROLLS];
-        private int bestSize;
-
-        int build(World world, int rolls) {
-            bestSize = NONE;
+        int buildStair(World world, int rolls) {
+            stairSize = NONE;
             layRest(world, rolls, 0, 0);
-            return bestSize;
+            return stairSize;
         }
 
-        int rollAt(int i) {
-            return i >= 0 && i < ROLLS ? bestOrder[i] : OTHER;
+        int stairRoll(int i) {
+            return i >= 0 && i < ROLLS ? stairOrder[i] : OTHER;
         }
 
         /** Orders come with the lowest first, so that of like ones the first that is found stays. */
         private void layRest(World world, int rest, int laid, int size) {
             if (rest == 0 || laid >= ROLLS) {
-                if (bestSize == NONE || size < bestSize) {
-                    bestSize = size;
-                    System.arraycopy(order, 0, bestOrder, 0, ROLLS);
+                if (stairSize == NONE || size < stairSize) {
+                    stairSize = size;
+                    System.arraycopy(order, 0, stairOrder, 0, ROLLS);
                 }
                 return;
             }
@@ -2019,28 +2029,28 @@ public final class PianolaRolls {
             }
         }
 
-        /** Lays a roll over the end of the first keys of the row, which stay: how many these are then. */
+        /** Lays a roll over the end of the row's first keys, which stay: how many they are then. */
         private int layOne(World world, int roll, int size) {
-            int many = world.size(roll);
+            int many = lay(world, roll, one);
             for (int at = 0; at + many <= size; at++) {
-                if (lies(world, roll, at, many)) {
+                if (lies(at, many)) {
                     return size;
                 }
             }
             int over = Math.min(many, size);
-            while (over > 0 && !lies(world, roll, size - over, over)) {
+            while (over > 0 && !lies(size - over, over)) {
                 over--;
             }
             int from = size - over;
-            for (int at = over; at < many && from + at < row.length; at++) {
-                row[from + at] = world.keyAt(roll, at);
+            for (int at = over; at < many && from + at < ROLLS * PLACES; at++) {
+                row[from + at] = one[at];
             }
             return from + many;
         }
 
-        private boolean lies(World world, int roll, int from, int many) {
-            for (int at = 0; at < many && from + at < row.length; at++) {
-                if (row[from + at] != world.keyAt(roll, at)) {
+        private boolean lies(int from, int many) {
+            for (int at = 0; at < many && at < PLACES && from + at < ROLLS * PLACES; at++) {
+                if (row[from + at] != one[at]) {
                     return false;
                 }
             }
@@ -2068,15 +2078,12 @@ public final class PianolaRolls {
         int learntKeys(World world, Script law, int child) {
             int bits = 0;
             for (int key = 1; key < KEYS; key++) {
-                if (isLearnt(world, law, child, key, world.timesHeard(child, key))) {
+                int heard = world.timesHeard(child, key);
+                if (heard > 0 && heard >= judge.learns(law, world, child, key, heard)) {
                     bits |= 1 << key;
                 }
             }
             return bits;
-        }
-
-        private boolean isLearnt(World world, Script law, int child, int key, int heard) {
-            return heard > 0 && heard >= judge.learns(law, world, child, key, heard);
         }
 
         /** The fewest playings that teach these keys, or NONE; timesOf then tells those of each roll. */
@@ -2117,24 +2124,28 @@ public final class PianolaRolls {
 
         private boolean teachesAll(World world, Script law, int child, int keys) {
             for (int key = 1; key < KEYS; key++) {
-                if ((keys >> key & 1) != 0 && !wouldLearn(world, law, child, key)) {
+                if ((keys >> key & 1) == 0) {
+                    continue;
+                }
+                int heard = heardThen(world, child, key);
+                int index = key * (MOST_HEARD + 1) + heard;
+                if (verdicts[index] == UNKNOWN) {
+                    boolean learnt = heard > 0 && heard >= judge.learns(law, world, child, key, heard);
+                    verdicts[index] = learnt ? LEARNT : NOT_LEARNT;
+                }
+                if (verdicts[index] == NOT_LEARNT) {
                     return false;
                 }
             }
             return true;
         }
 
-        private boolean wouldLearn(World world, Script law, int child, int key) {
-            int heard = Math.max(0, world.timesHeard(child, key));
+        private int heardThen(World world, int child, int key) {
+            int heard = world.timesHeard(child, key);
             for (int roll = 0; roll < ROLLS; roll++) {
                 heard += times[roll] * soundings[roll * KEYS + key];
             }
-            heard = Math.min(MOST_HEARD, heard);
-            int index = key * (MOST_HEARD + 1) + heard;
-            if (verdicts[index] == UNKNOWN) {
-                verdicts[index] = isLearnt(world, law, child, key, heard) ? LEARNT : NOT_LEARNT;
-            }
-            return verdicts[index] == LEARNT;
+            return Math.max(0, Math.min(MOST_HEARD, heard));
         }
 
         /** In how many of all draws a key is heard so often, as outcomesFrom then tells. */
