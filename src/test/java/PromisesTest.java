@@ -243,6 +243,14 @@ public final class PromisesTest {
     faulty("child\t;", 1, 5);
     faulty("child" + (char) 233 + ";", 1, 5);
     faulty("childx;", 1, 0);
+    faulty("childz;", 1, 0);
+    faulty("childA;", 1, 0);
+    faulty("childZ;", 1, 0);
+    for (char sign = 0; sign < 256; sign++) {
+      boolean stands = sign == 32 || sign == 10;
+      if (stands) fine(sign + "child;");
+      else faulty(sign + " child;", 1, 0);
+    }
     faulty("end;", 1, 0);
     faulty("7;", 1, 0);
     faulty("roll;", 1, 4);
@@ -313,6 +321,15 @@ public final class PromisesTest {
     faulty("wears heard;", 5, 6);
     // A name that can't stand there is that first.
     faulty("learns 1 roll;", 1, 9);
+    // It is the same wherever a one can stand.
+    String[] aheads = {"1+", "1*", "(", "-", "digits ", "if ", "if 1=", "if 1=1 and ", "if 1=1 or 1<=", "if not ",
+        "if 1=1 then ", "if 1=1 then 1 else ", "if 1=1 then 1*2+"};
+    for (String ahead : aheads) {
+      faulty("wears " + ahead + "who", 5, 6 + ahead.length());
+      faulty("wears " + ahead + "10000", 2, 6 + ahead.length());
+      faulty("wears " + ahead + "then", 1, 6 + ahead.length());
+      faulty("wears " + ahead, 1, 6 + ahead.length());
+    }
   }
 
   private static void tooMany() {
@@ -416,6 +433,11 @@ public final class PromisesTest {
     due("without children", p.sunday(2), 0);
     due("SUNDAY", p.is(0), 2);
     due("no draw", p.is(1), 269);
+    PianolaRolls alone = new PianolaRolls();
+    alone.child();
+    due("without rolls", alone.sunday(1), 0);
+    due("no draw", alone.is(1), 269);
+    due("nothing is written down", alone.book(NONE, 0), 0);
     p.child();
     p.child();
     // 269 is odd: roll 1; 14530 is even: child 0; then two draws by 10.
@@ -492,6 +514,13 @@ public final class PromisesTest {
     due("years(1, 1)", q.years(1, 1), 0);
     due("played", q.heard(0, 4), 1);
     due("steps", q.about(4), 3);
+    PianolaRolls rolls = with("4");
+    due("without a child", rolls.years(1, 1), 0);
+    due("nothing is played", rolls.book(NONE, 0), 0);
+    PianolaRolls children = new PianolaRolls();
+    children.child();
+    due("without a roll", children.years(1, 1), 0);
+    due("nothing is played", children.book(NONE, 0), 0);
     patchedByYears();
     PianolaRolls last = with("1");
     last.child();
@@ -577,6 +606,11 @@ public final class PromisesTest {
     due("undo", p.undo(), 0);
     due("told wear", p.at(0, 1, 1), 5);
     due("not told", p.at(0, 0, 1), 0);
+    p.patch(0, 1);
+    p.worn(0, 0, 3);
+    due("undo", p.undo(), 0);
+    due("told wear of the first place", p.at(0, 0, 1), 3);
+    due("patched no more", p.at(0, 1, 1), 5);
     due("holes stay", p.at(0, 2, 0), 4);
     due("rolls stay", p.is(2), 2);
     due("children stay", p.is(3), 2);
@@ -724,6 +758,14 @@ public final class PromisesTest {
     worth("if 1>1 then 1 else 2 end", 2);
     worth("if 1>=1 then 1 else 2 end", 1);
     worth("if 1=1 then 1 else 2 end", 1);
+    worth("if 1<2 then 1 else 2 end", 1);
+    worth("if 1<=2 then 1 else 2 end", 1);
+    worth("if 1>2 then 1 else 2 end", 2);
+    worth("if 1>=2 then 1 else 2 end", 2);
+    worth("if 2<=1 then 1 else 2 end", 2);
+    worth("if 2>=1 then 1 else 2 end", 1);
+    worth("if 2#1 then 1 else 2 end", 1);
+    worth("if 2=1 then 1 else 2 end", 2);
     worth("if 1#1 then 1 else 2 end", 2);
     worth("if not 1=1 then 1 else 2 end", 2);
     worth("if not not 1=1 then 1 else 2 end", 1);
@@ -790,6 +832,10 @@ public final class PromisesTest {
         due("child " + child + ", key " + key, p.foretold(7, child, key), other.heard(child, key));
       }
     }
+    other.undo();
+    for (int i = 0; i < 5; i++) other.undo();
+    due("behind one", p.foretold(1, 0, 4), other.heard(0, 4));
+    due("behind one", p.foretold(1, 1, 1), other.heard(1, 1));
     due("nothing is changed", p.is(1), x);
     due("nor SUNDAY", p.is(0), 0);
     due("nor heard", p.of(0, 1), 3);
@@ -813,6 +859,13 @@ public final class PromisesTest {
     due("edit(1, 0)", p.edit(1, 0), 2);
     due("edit(3, 3)", p.edit(3, 3), 0);
     due("edit(3, 4)", p.edit(3, 4), 16);
+    PianolaRolls q = with("12345", "2345", "1234", "134", "51234");
+    due("left out ahead", q.edit(0, 1), 1);
+    due("put in ahead", q.edit(1, 0), 1);
+    due("left out at the end", q.edit(0, 2), 1);
+    due("put in between", q.edit(3, 2), 1);
+    due("left out between", q.edit(2, 3), 1);
+    due("left out and put in", q.edit(0, 4), 2);
     due("silent ones, too", p.edit(1, 2), 2);
     due("edit(2, 4)", p.edit(2, 4), 1);
     p.worn(4, 0, 9);
@@ -1034,7 +1087,7 @@ public final class PromisesTest {
     due("8 times", p.teaches(0, 4, NONE), 8);
     ruled(p, "learns if heard=4 then 4 else 99 end;");
     due("heard being as then", p.teaches(0, 4, NONE), 4);
-    ruled(p, "learns 1;");
+    ruled(p, "learns 0;");
     due("the last text", p.about(2), 4);
     due("once at least", p.teaches(0, 4, NONE), 1);
     p.play(0, 0);
