@@ -1565,29 +1565,46 @@ public final class PianolaRolls {
             int end = script.second(clause);
             top = 0;
             for (int i = script.first(clause); i < end; i++) {
-                int kind = script.stepAt(i) % OPERAND;
-                int operand = script.stepAt(i) / OPERAND;
-                if (kind == NUMBER) {
-                    push(operand);
-                } else if (kind >= ROLL && kind <= WEAR) {
-                    push(names[kind - ROLL]);
-                } else if (kind == ELSE || kind == THEN && pop() == 0) {
-                    // It only ever goes on further down.
-                    i = Math.max(i, operand - 1);
-                } else if (kind == HOLES) {
-                    push(world.holes(pop()));
-                } else if (kind == DIGITS) {
-                    push(digitsTogether(pop()));
-                } else if (kind == NEGATE) {
-                    push(-pop());
-                } else if (kind == NOT) {
-                    push(pop() == 0 ? 1 : 0);
-                } else if (kind == '+' || kind == '-' || kind == '*' || kind == '/') {
-                    int right = pop();
-                    push(reckon(kind, pop(), right));
-                } else if (kind != THEN) {
-                    int right = pop();
-                    push(holds(kind, pop(), right) ? 1 : 0);
+                int step = script.stepAt(i);
+                int kind = step % OPERAND;
+                // A step that doesn't go on with the next one only ever goes on further down.
+                int further = Math.max(i, step / OPERAND - 1);
+                switch (kind) {
+                    case NUMBER:
+                        push(step / OPERAND);
+                        break;
+                    case THEN:
+                        i = pop() == 0 ? further : i;
+                        break;
+                    case ELSE:
+                        i = further;
+                        break;
+                    case HOLES:
+                        push(world.holes(pop()));
+                        break;
+                    case DIGITS:
+                        push(digitsTogether(pop()));
+                        break;
+                    case NEGATE:
+                        push(-pop());
+                        break;
+                    case NOT:
+                        push(pop() == 0 ? 1 : 0);
+                        break;
+                    case '+':
+                    case '-':
+                    case '*':
+                    case '/':
+                        int right = pop();
+                        push(reckon(kind, pop(), right));
+                        break;
+                    default:
+                        if (kind >= ROLL && kind <= WEAR) {
+                            push(names[kind - ROLL]);
+                        } else {
+                            int second = pop();
+                            push(holds(kind, pop(), second) ? 1 : 0);
+                        }
                 }
             }
             return pop();
