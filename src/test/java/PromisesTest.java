@@ -1,20 +1,5 @@
 /** Each promise by hand: ordinary inputs, the edges that the document names, and wrong inputs. */
-public final class PromisesTest {
-  private static final int NONE = -1;
-  private static int wrong = 0;
-  private static int checks = 0;
-  private static int promise = 0;
-
-  private static void due(String what, long got, long want) {
-    checks++;
-    if (got != want) {
-      wrong++;
-      System.out.println("promise " + promise + ": " + what + " answered " + got + ", due is " + want);
-    }
-  }
-
-  private static void due(String what, boolean got, boolean want) { due(what, got ? 1 : 0, want ? 1 : 0); }
-
+public final class PromisesTest extends Bench {
   public static void main(String[] args) {
     Runnable[] all = {
       PromisesTest::newObject, PromisesTest::roll, PromisesTest::hole, PromisesTest::worn, PromisesTest::child,
@@ -27,83 +12,12 @@ public final class PromisesTest {
       PromisesTest::fills, PromisesTest::teaches, PromisesTest::likely, PromisesTest::parts, PromisesTest::alike,
       PromisesTest::said, PromisesTest::whose, PromisesTest::best, PromisesTest::loved, PromisesTest::dumb,
       PromisesTest::ledger, PromisesTest::image, PromisesTest::back, PromisesTest::about};
-    for (Runnable one : all) {
-      promise++;
-      one.run();
+    for (int i = 0; i < all.length; i++) {
+      heading("promise " + (i + 1));
+      all[i].run();
     }
-    System.out.println(promise + " promises, " + checks + " checks, " + wrong + " wrong");
-    if (wrong != 0) System.exit(1);
+    finish(all.length + " promises");
   }
-
-  // ---- helpers
-
-  /** A new object with rolls of these keys, one a digit. */
-  private static PianolaRolls with(String... rolls) {
-    PianolaRolls p = new PianolaRolls();
-    for (String keys : rolls) cut(p, keys);
-    return p;
-  }
-
-  private static int cut(PianolaRolls p, String keys) {
-    int roll = p.roll(keys.length());
-    for (int at = 0; at < keys.length(); at++) p.hole(roll, at, keys.charAt(at) - '0');
-    return roll;
-  }
-
-  private static void wear(PianolaRolls p, int roll, int wear, int... places) {
-    for (int at : places) p.worn(roll, at, wear);
-  }
-
-  /** Puts the text on the tape, which is emptied ahead, and reads it. */
-  private static int read(PianolaRolls p, String text) {
-    p.end(0);
-    for (int from = 0; from < text.length(); from += 20) {
-      int[] five = new int[5];
-      for (int i = 0; i < 20; i++) {
-        int sign = from + i < text.length() ? text.charAt(from + i) : 0;
-        five[i / 4] = five[i / 4] << 8 | sign & 255;
-      }
-      p.feed(five[0], five[1], five[2], five[3], five[4]);
-    }
-    p.end(text.length());
-    return p.text();
-  }
-
-  private static PianolaRolls ruled(PianolaRolls p, String text) {
-    due("'" + text + "' is read", read(p, text), p.about(2) - 1);
-    due("'" + text + "' rules", p.by(p.about(2) - 1), true);
-    return p;
-  }
-
-  private static void faulty(String text, int what, int at) {
-    PianolaRolls p = new PianolaRolls();
-    due("text of '" + text + "'", read(p, text), NONE);
-    due("fault(0) of '" + text + "'", p.fault(0), what);
-    due("fault(1) of '" + text + "'", p.fault(1), at);
-  }
-
-  private static void fine(String text) {
-    PianolaRolls p = new PianolaRolls();
-    due("text of '" + text + "'", read(p, text), 0);
-    due("fault(0) of '" + text + "'", p.fault(0), 0);
-    due("fault(1) of '" + text + "'", p.fault(1), NONE);
-  }
-
-  /** The value of a sum between 0 and 99, as learns says it; of a child 1 that heard key 2 once, on Sunday 0. */
-  private static void worth(String sum, int want) {
-    PianolaRolls p = with("2", "11101");
-    p.child();
-    p.child();
-    p.play(0, 1);
-    ruled(p, "learns " + sum + ";");
-    due(sum, p.law(0, 0, 1, false), want);
-  }
-
-  private static void passTo(PianolaRolls p, int sunday) {
-    for (int i = 0; i < 200 && p.is(0) < sunday; i++) p.sunday(Math.min(60, sunday - p.is(0)));
-  }
-
-  // ---- the promises
 
   private static void newObject() {
     PianolaRolls p = new PianolaRolls();
