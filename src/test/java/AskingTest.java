@@ -44,6 +44,9 @@ public final class AskingTest extends Sentences {
     says("2 the KEY it heard most (NONE: none)", () -> {
       PianolaRolls p = with(2, "5", "4", "1");
       due("none", p.of(0, 2), NONE);
+      p.play(2, 0);
+      due("1", p.of(0, 2), 1);
+      p.forget(0, 1);
       p.play(0, 0);
       due("5", p.of(0, 2), 5);
       p.play(1, 0);

@@ -233,6 +233,10 @@ public final class DoingTest extends Sentences {
       due("a fault", read(p, "child;child;?"), NONE);
       due("the first is as it was", p.played(0), NONE);
       due("one child", p.is(3), 1);
+      PianolaRolls often = with(1, "1");
+      for (int i = 0; i < 20; i++) due("a long fault", read(often, "wears 1" + times(146, "+1") + "?"), NONE);
+      ruled(often, "learns 1" + times(90, "+1") + ";");
+      due("none of them is left in the next", often.law(0, 0, 0, false), 91);
     });
     says("or (the tape stays) there are 4", () -> {
       PianolaRolls p = new PianolaRolls();

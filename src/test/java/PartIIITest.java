@@ -187,6 +187,10 @@ public final class PartIIITest extends Sentences {
       // 1 2 1 alone is of three: by places 0, 1, 4.
       int[] places = {0, 1, 4};
       for (int i = 0; i < 3; i++) due("place " + i, q.common(0, 1, i), places[i]);
+      due("2 and 1 have nothing behind them", with("1234", "3421").common(0, 1, 0), 2);
+      PianolaRolls taken = with("1234", "34123", "111", "11");
+      for (int i = 0; i < 3; i++) due("3 of the first, not that ahead of it " + i, taken.common(0, 1, i), i);
+      for (int i = 0; i < 2; i++) due("each of the second once " + i, taken.common(2, 3, i), i);
       PianolaRolls next = with("1332", "132");
       int[] lowest = {0, 1, 3};
       for (int i = 0; i < 3; i++) due("the next lowest " + i, next.common(0, 1, i), lowest[i]);

@@ -38,6 +38,8 @@ public final class PartIITest extends Sentences {
       faulty(times(295, " ") + "child", 1, 300);
       fine("wears " + times(293, "0") + ";");
       // As many tokens as there can be: 300 of one byte each.
+      faulty(times(300, ";"), 1, 0);
+      faulty(times(300, "1;").substring(0, 300), 1, 0);
       faulty("learns(" + times(292, "(") + ";", 3, 14);
       fine("wears 1" + times(146, "+1") + ";");
       faulty("wears 1" + times(146, "+1") + "+", 1, 300);
@@ -418,6 +420,11 @@ public final class PartIITest extends Sentences {
       worth("2*if 1=1 then if 1=2 then 3 else 4 end else if 1=1 then 5 else 6 end end-1", 7);
       worth("2*if 1=2 then if 1=2 then 3 else 4 end else if 1=1 then 5 else 6 end end-1", 9);
       worth("if if 1=1 then 1 else 2 end=1 and if 1=2 then 1 else 2 end=2 then 3 else 4 end", 3);
+      // As much as can be waiting at once: an or, an and, an ask, a sum and a product in each if.
+      String deep = "7";
+      for (int i = 0; i < 7; i++) deep = "if 1=2or 1=1and 7=0+1*" + deep + " then 7else 2end";
+      worth(deep, 7);
+      worth(deep.replace("*7", "*6"), 2);
     });
   }
 
@@ -453,6 +460,17 @@ public final class PartIITest extends Sentences {
       faulty("wears ((((((((1(", 1, 15);
     });
     says("1 it can't stand there, or is none", () -> {
+      for (int sign = 0; sign < 256; sign++) {
+        if ("abcdefghijklmnopqrstuvwxyz-(0123456789 \n".indexOf(Character.toLowerCase((char) sign)) >= 0) continue;
+        faulty((char) sign + "child;", 1, 0);
+        faulty((char) sign + " 1;", 1, 0);
+        faulty("wears " + (char) sign + "1;", 1, 6);
+      }
+      for (String none : new String[] {"?", "none", "By", "TO"}) {
+        faulty("play 0 " + none + " 0;", 1, 7);
+        faulty("patch 0 " + none + " 0;", 1, 8);
+        faulty("forget 1 " + none + " 0;", 1, 9);
+      }
       faulty("?", 1, 0);
       faulty("child?;", 1, 5);
       faulty("wears foo;", 1, 6);

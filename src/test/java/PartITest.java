@@ -233,6 +233,12 @@ public final class PartITest extends Sentences {
           due("wear " + wear + " and wears " + wears, p.at(0, 0, 1), Math.min(9, wear + wears));
         }
       }
+      PianolaRolls far = with(1, "1", "1", "1", "1", "1111111111111111");
+      wear(far, 0, 3, 0);
+      wear(far, 4, 6, 15);
+      far.play(4, 0);
+      due("the last place of the last roll", far.at(4, 15, 1), 7);
+      due("the first of the first", far.at(0, 0, 1), 3);
       PianolaRolls then = ruled(with(1, "1"), "blurs wear*10;");
       due("heard as it is ahead", then.play(0, 0), 1);
       due("worn by then", then.play(0, 0), 0);
@@ -457,6 +463,12 @@ public final class PartITest extends Sentences {
     due("as told last", p.at(0, 0, 1), 9);
     p.undo();
     due("as told last", p.at(0, 0, 1), 9);
+    PianolaRolls far = with(1, "1", "1", "1", "1", "0000000000000001");
+    far.play(4, 0);
+    far.worn(4, 15, 6);
+    due("undo()", far.undo(), 0);
+    due("the last place of the last roll", far.at(4, 15, 1), 6);
+    due("the first of the first", far.at(0, 0, 1), 0);
     PianolaRolls many = with(1, "01");
     many.sunday(50);
     many.worn(0, 0, 4);

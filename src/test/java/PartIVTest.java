@@ -106,6 +106,7 @@ public final class PartIVTest extends Sentences {
       due("the same", p.stair(5, NONE), 4);
       due("at the end", p.stair(9, NONE), 4);
       due("at the start", p.stair(17, NONE), 4);
+      due("the longer one first", p.stair(17, 0), 0);
       due("all", p.stair(31, NONE), 4);
       // 345 and 123 make 345123, over the seam of which 512 is.
       due("over a seam", with("345", "123", "51").stair(7, NONE), 6);
@@ -184,6 +185,12 @@ public final class PartIVTest extends Sentences {
       due("99 at most", most.teaches(0, 2, NONE), 7);
       for (int i = 0; i < 6; i++) most.play(0, 0);
       due("96 already, 99 at most", most.teaches(0, 2, 0), 1);
+      PianolaRolls fives = ruled(with(1, "5555555555555555", "555"), "wears 0;learns 99;");
+      due("99 of the last key", fives.teaches(0, 32, NONE), 7);
+      // A key heard 99 times says nothing of the next key, heard never or once.
+      PianolaRolls two = ruled(with(1, SIXTEEN_ONES, "2"), "wears 0;learns key*2-1;");
+      for (int i = 0; i < 7; i++) two.play(0, 0);
+      due("key 2 thrice yet", two.teaches(0, 6, NONE), 3);
       PianolaRolls zero = ruled(with(1, "1"), "learns 0;");
       due("once at least", zero.teaches(0, 2, NONE), 1);
     });

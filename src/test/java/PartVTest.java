@@ -188,6 +188,51 @@ public final class PartVTest extends Sentences {
     });
   }
 
+  /** More steps than can be taken back, on either side of the image. */
+  private static void backToSteps() {
+    for (int ahead : new int[] {0, 3, 30, 37, 59}) {
+      for (int since : new int[] {1, 29, 30, 44}) {
+        PianolaRolls p = with(1, "1");
+        if (ahead > 0) p.sunday(ahead);
+        p.image();
+        p.sunday(since);
+        due("back()", p.back(), ahead);
+        int many = Math.min(30, ahead);
+        due("steps", p.about(4), many);
+        for (int i = 1; i <= many; i++) {
+          due("undo()", p.undo(), many - i);
+          due("SUNDAY", p.is(0), ahead - i);
+        }
+        due("no further", p.undo(), NONE);
+      }
+    }
+  }
+
+  private static void backToSayings() {
+    PianolaRolls p = with(2, "1");
+    read(p, "learns who*10+key;");
+    p.said(1, 2, 12);
+    p.said(0, 5, 5);
+    p.image();
+    due("as said", p.whose(), 1);
+    int[][] others = {{0, 2, 12}, {1, 3, 12}, {1, 2, 13}};
+    for (int[] other : others) {
+      p.said(NONE, 0, 0);
+      p.said(other[0], other[1], other[2]);
+      due("said otherwise", p.whose(), 0);
+      p.back();
+      due("as it was said", p.whose(), 1);
+      due("how many", p.about(6), 2);
+    }
+    p.said(NONE, 0, 0);
+    p.said(1, 2, 99);
+    p.image();
+    p.said(NONE, 0, 0);
+    p.said(1, 2, 12);
+    p.back();
+    due("the later image", p.whose(), 0);
+  }
+
   private static void images() {
     says("AN IMAGE: all as it is, but the tape and the latest FAULT", () -> {
       PianolaRolls p = lived();
@@ -231,6 +276,8 @@ public final class PartVTest extends Sentences {
         p.back();
         due("all as it was", state(p), ahead);
       }
+      backToSteps();
+      backToSayings();
       due("the steps are, too", p.undo(), 1);
       due("SUNDAY", p.is(0), 0);
       due("the first as well", p.undo(), 0);
