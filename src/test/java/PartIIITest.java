@@ -148,6 +148,8 @@ public final class PartIIITest extends Sentences {
       due("the 16th", p.common(3, 3, 15), 15);
       due("no 17th", p.common(3, 3, 16), -2);
       due("one of 16", p.common(3, 0, NONE), 1);
+      due("none of 16", p.common(2, 3, NONE), 0);
+      due("the first of them", p.common(0, 3, 0), 0);
     });
     says("others between them aside", () -> {
       PianolaRolls p = with("1523", "142344", "3211");
@@ -334,6 +336,11 @@ public final class PartIIITest extends Sentences {
       due("side by side", p.motif(2, false), 3);
       due("the longest", p.motif(3, false), 3);
       due("silent ones, too", p.motif(4, false), 1);
+      // What lies behind the last place is none of the roll's, nor what another one, asked ahead, had there.
+      PianolaRolls q = with("00", "111111", "11");
+      due("all silent", q.motif(0, false), 1);
+      due("of six", q.motif(1, false), 5);
+      due("of two, behind six", q.motif(2, false), 1);
     });
     says("(both may overlap", () -> {
       PianolaRolls p = with("11", "111", SIXTEEN_ONES, "12121", "1212121212121212");

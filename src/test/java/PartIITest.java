@@ -317,6 +317,12 @@ public final class PartIITest extends Sentences {
       worth("if not not 1=1 then 1 else 2 end", 1);
       worth("if not 1=2 and 1=2 then 1 else 2 end", 2);
       worth("if not 1=1 or 1=1 then 1 else 2 end", 1);
+      // What stands ahead of a not waits for it, and stays what it is.
+      worth("if 1=1 and not 1=2 then 1 else 2 end", 1);
+      worth("if 1=2 or not 1=2 then 1 else 2 end", 1);
+      worth("if 1=1 and not 1=1 then 1 else 2 end", 2);
+      worth("7+if not 1=2 then 1 else 2 end", 8);
+      worth("7*if not 1=1 then 1 else 2 end", 14);
       faulty("wears if not then 1 else 2 end;", 1, 13);
       faulty("wears if 1< then 1 else 2 end;", 1, 12);
       faulty("wears if (1<2) then 1 else 2 end;", 1, 11);

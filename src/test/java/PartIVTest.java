@@ -91,6 +91,10 @@ public final class PartIVTest extends Sentences {
       int[] order = {2, 0, 1};
       for (int i = 0; i < 3; i++) due("roll " + i + " of it", q.stair(7, i), order[i]);
       due("1 2", q.stair(12, NONE), 2);
+      // The second lies over 4 5, the third over 14 places that are beyond the first roll's.
+      PianolaRolls far = with(SIXTEEN_ONES, "2222222222222222", "3333333333333345", "4511111111111111", "5");
+      due("3 .. 4 5 1 .. 1", far.stair(13, NONE), 14 + 2 + 16);
+      due("with one more, and one that is in it", far.stair(31, NONE), 14 + 2 + 16 + 16);
     });
     says("each over the end of the row as far as can be", () -> {
       PianolaRolls p = with("1212", "2123", "1111", "111112", "23");

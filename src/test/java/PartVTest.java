@@ -65,6 +65,21 @@ public final class PartVTest extends Sentences {
     throw new IllegalStateException("no such seed");
   }
 
+  /** The same, by a second x of that kind whose key, if it told one, would be another than the first one's. */
+  private static int seedOfKind(int kind) {
+    for (int seed = 0; seed <= 9999; seed++) {
+      int x = seed * 2 + 269;
+      if (x % 6 == 3 && nextX(x) % 6 == kind && nextX(x) % 5 != x % 5) return seed;
+    }
+    throw new IllegalStateException("no such seed");
+  }
+
+  private static int behind(int x, int draws) {
+    int drawn = x;
+    for (int i = 0; i < draws; i++) drawn = nextX(drawn);
+    return drawn;
+  }
+
   private static int secondOf(int seed) { return nextX(seed * 2 + 269); }
 
   /** To the last of these children. */
@@ -85,6 +100,12 @@ public final class PartVTest extends Sentences {
             playedByYears(kind, rolls, children);
           }
         }
+        // Nothing else comes with it: all places are worn by one.
+        PianolaRolls p = with(1, "1234512345123451");
+        int seed = seedOfKind(kind);
+        due("years(" + seed + ", 2)", p.years(seed, 2), 0);
+        for (int at = 0; at < 16; at++) due("wear of place " + at, p.at(0, at, 1), 1);
+        due("X by the years and 16 draws", p.is(1), behind(seed * 2 + 269, 2 + 16));
       }
     });
     says("2 PLACE x / 6 mod 16 of ROLL x mod how many is PATCHED", () -> {
@@ -101,7 +122,14 @@ public final class PartVTest extends Sentences {
         for (int each = 0; each < 3; each++) {
           due("torn yet in " + each, p.ofRoll(each, 2), each == roll ? 0xffff & ~(1 << place) : 0xffff);
         }
+        due("pages", p.book(NONE, 0), 0);
       }
+      // The first year of it forgets a key, the patching one no other.
+      PianolaRolls p = with(1, "12345");
+      p.play(0, 0);
+      due("years", p.years(seedOfKind(2), 2), 0);
+      due("heard yet", p.of(0, 1), 4);
+      due("pages", p.book(NONE, 0), 1);
     });
     says("3 KEY 1 and x mod 5 is FORGOTTEN by CHILD x / 6 mod how many", () -> {
       boolean[] keys = new boolean[6];

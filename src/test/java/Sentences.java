@@ -75,7 +75,7 @@ abstract class Sentences extends Bench {
 
   /** Numbers beyond a range: next to it, far from it, and such as would be in it if their upper bits were lost. */
   static int[] beyond(int low, int high) {
-    int[] all = {low - 1, high + 1, low - 256, high + 256, low + 65536, high - 65536, low + (1 << 30),
+    int[] all = {low - 1, high + 1, low - 2, high + 2, low - 256, high + 256, low + 65536, high - 65536, low + (1 << 30),
         Integer.MIN_VALUE, Integer.MIN_VALUE + Math.max(0, low), Integer.MAX_VALUE};
     return Arrays.stream(all).filter(n -> n < low || n > high).toArray();
   }
