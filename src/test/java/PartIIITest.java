@@ -150,6 +150,7 @@ public final class PartIIITest extends Sentences {
       due("one of 16", p.common(3, 0, NONE), 1);
       due("none of 16", p.common(2, 3, NONE), 0);
       due("the first of them", p.common(0, 3, 0), 0);
+      due("the last, behind two that none of 16 is like", p.common(1, 3, 0), 2);
     });
     says("others between them aside", () -> {
       PianolaRolls p = with("1523", "142344", "3211");

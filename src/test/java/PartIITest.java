@@ -36,6 +36,9 @@ public final class PartIITest extends Sentences {
       fine(times(294, " ") + "child;");
       faulty(times(294, " ") + "child?", 1, 299);
       faulty(times(295, " ") + "child", 1, 300);
+      // A sign that could be the first byte of a longer one is the last byte that there can be.
+      faulty(times(289, " ") + "wears if 1<", 1, 300);
+      faulty(times(289, " ") + "wears if 1>", 1, 300);
       fine("wears " + times(293, "0") + ";");
       // As many tokens as there can be: 300 of one byte each.
       faulty(times(300, ";"), 1, 0);
